@@ -774,8 +774,7 @@ public final class PeaceRing {
 
         /** The values that wait are bits of one int: some dozen wait at most, as no more than 4 "(" are open. */
         boolean holds(int line, int age, int times, int degree, int marks) {
-            if (!hasCondition(line)) return true;
-            int values = 0;
+            int values = ends[line] > begins[line] ? 0 : 1;
             for (int i = begins[line]; i < ends[line] && i < CODES; i++) {
                 int what = codes[i] / STEP;
                 int number = codes[i] % STEP;
@@ -1313,7 +1312,8 @@ public final class PeaceRing {
         private int safeUnder(int version) {
             alone = version;
             learnDeeds();
-            return safeNow();
+            gather(world.now);
+            return safeAsGathered();
         }
 
         int greatestMile(int n, int m) {
@@ -1458,7 +1458,10 @@ public final class PeaceRing {
             int last = world.now + hours;
             for (int i = 0; i < hours; i++) {
                 world.now++;
-                boolean isAnyGone = goAll();
+                boolean isAnyGone = false;
+                for (int person = 0; person < world.people.count && person < PERSONS; person++) {
+                    if (go(person)) isAnyGone = true;
+                }
                 tellBells();
                 // Who takes no STEP now takes none later either, and who is together has told all: the rest is still.
                 if (!isAnyGone) break;
@@ -1471,14 +1474,6 @@ public final class PeaceRing {
                 int aim = world.people.get(person, AIM);
                 if (aim != NONE) roads.spread(aim, aimWays[person]);
             }
-        }
-
-        private boolean goAll() {
-            boolean isAnyGone = false;
-            for (int person = 0; person < world.people.count && person < PERSONS; person++) {
-                if (go(person)) isAnyGone = true;
-            }
-            return isAnyGone;
         }
 
         /** A RUNNER goes their STEPS of an HOUR: whether there was one. */
