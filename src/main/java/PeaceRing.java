@@ -710,9 +710,10 @@ public final class PeaceRing {
 
     /** LINES of a CHARTER as it was read once; a COND is a row of codes, each behind what it is about. */
     private static final class Version {
-        /** No TEXT that THE TAPE can hold has more: every code takes four of its bytes at least. */
+        /** No TEXT that THE TAPE can hold has more: on the whole, a code takes four of its bytes at least. */
         private static final int CODES = 100;
-        private static final int AGE = 0, TIMES = 1, DEGREE = 2, MARK = 3;
+        /** A code below MARK is a FACT (the third is degree), from MARK on a mark of the DEED, then NOT, AND, OR. */
+        private static final int AGE = 0, TIMES = 1, MARK = 3;
         private static final int NOT = 6, AND = 7, OR = 8, STEP = 1000;
 
         private int charter;
@@ -1339,8 +1340,6 @@ public final class PeaceRing {
 
     /** What POSTS see. */
     private static final class Posts {
-        private static final int ALL_CLOCKS = (1 << DAY) - 1;
-
         private final World world;
         /** Sets of POSTS of which a WATCH needs one each. */
         private final int[] needs = new int[1 << POSTS];

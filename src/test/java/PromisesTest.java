@@ -50,6 +50,15 @@ public final class PromisesTest {
         r.hours(1);
         c.all(new int[] {r.personOf(0, 0), r.personOf(0, 4), r.personOf(0, 6)}, 66, NONE, 1);
         c.all(new int[] {r.personOf(1, 0), r.personOf(1, 6), r.many(7)}, 22, 1, 0);
+        PeaceRing onward = new PeaceRing();
+        onward.person(0, 1);
+        onward.person(0, 4);
+        onward.aim(0, 99);
+        onward.aim(1, 99);
+        onward.hours(3);
+        c.all(new int[] {onward.personOf(0, 0), onward.personOf(1, 0), onward.many(7)}, 3, 39, 2);
+        onward.hours(100);
+        c.all(new int[] {onward.personOf(0, 0), onward.personOf(1, 0), onward.many(7), onward.many(0)}, 99, 99, 0, 103);
         PeaceRing shut = new PeaceRing();
         shut.person(0, 4);
         shut.ground(1, 1);
@@ -104,6 +113,14 @@ public final class PromisesTest {
         c.due(r.heard(2, 0), NONE);
         r.hours(40);
         c.all(new int[] {r.heard(1, 0), r.heard(2, 0)}, 2, 3);
+        PeaceRing back = new PeaceRing();
+        back.person(0, 1);
+        back.person(0, 1);
+        back.person(3, 1);
+        back.bell(3, 0);
+        back.aim(2, 0);
+        back.hours(20);
+        c.all(new int[] {back.heard(0, 0), back.heard(1, 0), back.heard(2, 0)}, 3, 3, 0);
     }
 
     static void promise3() {
@@ -276,6 +293,11 @@ public final class PromisesTest {
         StringBuilder longest = new StringBuilder("any fail if night");
         while (longest.length() < 284) longest.append(" or not night");
         c.due(Check.read(r, 0, longest + ";"), 0);
+        c.due(Check.read(r, 0, "mile 3;" + " ".repeat(293)), 1);
+        c.due(Check.read(r, 0, " ".repeat(293) + "mile 4;"), 2);
+        c.due(Check.read(r, 0, ";".repeat(300)), -100);
+        c.due(Check.read(r, 0, "mile 3;" + "(".repeat(293)), -107);
+        c.due(Check.read(r, 0, "any and ".repeat(37) + "any"), -399);
     }
 
     private static void fault(String text, int place) {
@@ -293,6 +315,10 @@ public final class PromisesTest {
         fault("mile 3", 6);
         fault("mile 3 4;", 7);
         fault("miles 3;", 0);
+        fault("milez 3;", 0);
+        fault("mile{ 3;", 4);
+        fault("mile 3:;", 6);
+        fault("mile 3/;", 6);
         fault("Mile 3;", 0);
         fault(" ;", 1);
         fault("3;", 0);
@@ -365,6 +391,10 @@ public final class PromisesTest {
         int[] lines = new int[10];
         for (int i = 0; i < 10; i++) lines[i] = r.version(0, 10 + i);
         c.all(lines, 18, 1000, 2000, 3012, 4345, 5017, 6096, 5064, 6006, 6008);
+        Check.read(r, 2, "theft count; blow count; killing count; debt count; oath count; treason count; any count;");
+        for (int i = 0; i < 7; i++) c.due(r.version(1, 10 + i), 5000 + (1 << i));
+        r = new PeaceRing();
+        Check.read(r, 2, "mile 1; forty 2; cost 3; any count; any fail; mile 1; forty 2; cost 3; any count; any fail;");
         r.hours(4);
         Check.read(r, 2, "cost 7;");
         c.all(new int[] {r.version(0, 3), r.version(1, 2), r.version(1, 3), r.version(1, 1), r.version(1, 10)}, 4, 4, NONE, 1, 4007);
@@ -387,6 +417,10 @@ public final class PromisesTest {
         Check.read(r, 0, "");
         c.all(new int[] {r.rule(10, 0), r.rule(10, 1), r.rule(9, 0)}, 3, 0, 9);
         c.all(new int[] {r.rule(-1, 0), r.rule(10000, 0), r.rule(0, -1), r.rule(0, 3)}, BAD, BAD, BAD, BAD);
+        r = new PeaceRing();
+        String ten = "any fail;".repeat(8);
+        for (int charter = 0; charter < 3; charter++) Check.read(r, charter, ten + "forty " + charter + "; mile " + charter + ";");
+        c.all(new int[] {r.rule(0, 0), r.rule(0, 2)}, 2, 2);
     }
 
     // ---- deeds
@@ -438,12 +472,52 @@ public final class PromisesTest {
         c.all(new int[] {r.counts(0, 0, 10), r.counts(1, 0, 10)}, 1, 0);
         r = after("blow and debt fail; any and oath fail if not night;");
         c.all(new int[] {r.counts(0, 0, 10), r.counts(1, 0, 10)}, 1, 0);
+        timesAreOfThatKindAndPerson();
+        insideIsLookedUpAnew();
         // LINES go by CHARTERS, not by when they were read, and only those of that HOUR.
         r = after("theft count;");
         Check.read(r, 2, "theft fail;");
         c.all(new int[] {r.counts(0, 0, 9), r.counts(0, 0, 10)}, 1, 0);
         Check.read(r, 1, "theft count;");
         c.due(r.counts(0, 0, 10), 0);
+    }
+
+    private static void timesAreOfThatKindAndPerson() {
+        PeaceRing r = after("any fail if times above 1;");
+        r.person(0, 1);
+        r.deed(1, 0, -1, 5, 0, 5);
+        r.deed(0, 1, -1, 5, 0, 5);
+        c.all(new int[] {r.counts(0, 0, 10), r.counts(1, 0, 10), r.counts(2, 0, 10), r.counts(3, 0, 10)}, 1, 0, 1, 1);
+        // DEEDS of the same HOUR count one another, whichever was told first, KNOWN or not.
+        r.deed(1, 0, -1, 5, 0, 900);
+        c.all(new int[] {r.counts(2, 0, 10), r.counts(4, 0, 10)}, 0, 0);
+    }
+
+    /** Whatever changes by then: VERSIONS of the HOUR of the DEED, STONES, walls. */
+    private static void insideIsLookedUpAnew() {
+        PeaceRing r = new PeaceRing();
+        r.person(0, 1);
+        r.stone(50, 1);
+        r.deed(0, 0, -1, 0, 54, 0);
+        Check.read(r, 0, "any fail if inside;");
+        r.keep();
+        c.due(r.counts(0, 0, 0), 1);
+        Check.read(r, 1, "mile 4;");
+        c.due(r.counts(0, 0, 0), 0);
+        r.strike(1);
+        c.due(r.counts(0, 0, 0), 1);
+        Check.read(r, 1, "mile 4;");
+        c.due(r.counts(0, 0, 0), 0);
+        r.ground(52, 1);
+        c.due(r.counts(0, 0, 0), 1);
+        r.ground(52, 2);
+        c.due(r.counts(0, 0, 0), 0);
+        r.again();
+        c.due(r.counts(0, 0, 0), 1);
+        r.stone(54, 1);
+        c.due(r.counts(0, 0, 0), 0);
+        r.again();
+        c.due(r.counts(0, 0, 0), 1);
     }
 
     private static void condition(String condition, int... due) {
@@ -482,7 +556,7 @@ public final class PromisesTest {
     static void promise18() {
         PeaceRing r = after("mile 3; theft count; any fail if age above 15;");
         c.all(new int[] {r.line(0, 0, 10), r.line(0, 0, 15), r.line(0, 0, 16), r.line(1, 0, 10)}, 1, 1, 2, 1);
-        Check.read(r, 2, "cost 3; blow fail; theft fail;");
+        Check.read(r, 2, "cost 3; blow fail; theft fail if age above 3;");
         Check.read(r, 1, "theft fail;");
         c.all(new int[] {r.line(0, 0, 9), r.line(0, 0, 10), r.counts(0, 0, 10)}, 1, 102, 0);
         r.deed(0, 3, -1, 0, 0, 0);
@@ -501,6 +575,8 @@ public final class PromisesTest {
         c.all(new int[] {r.safe(0, 54, 20, 29), r.safe(0, 54, 20, 30), r.safe(0, 54, 4, 30), r.safe(0, 54, 5, 30)}, 1, 0, 1, 0);
         r.person(54, 1);
         c.due(r.safe(1, 55, 20, 30), 1);
+        r.stone(0, 1);
+        c.all(new int[] {r.safe(1, 0, 0, 0), r.degree(0, 0)}, 1, 1);
         c.all(new int[] {r.safe(2, 0, 0, 0), r.safe(-1, 0, 0, 0), r.safe(0, -1, 0, 0), r.safe(0, 100, 0, 0)}, BAD, BAD, BAD, BAD);
         c.all(new int[] {r.safe(0, 0, -1, 0), r.safe(0, 0, 10000, 0), r.safe(0, 0, 0, -1), r.safe(0, 0, 0, 10000)},
             BAD, BAD, BAD, BAD);
@@ -585,6 +661,13 @@ public final class PromisesTest {
         c.due(r.swear(0), STATE);
         r.strike(0);
         c.due(r.swear(0), 1);
+        PeaceRing later = new PeaceRing();
+        later.stone(0, 1);
+        later.person(0, 1);
+        Check.pass(later, 900);
+        later.seek(0);
+        Check.pass(later, 960);
+        c.due(later.swear(0), 1);
         PeaceRing all = states();
         Check.pass(all, 960);
         c.due(all.swear(1), 1);
@@ -634,6 +717,12 @@ public final class PromisesTest {
         r.deed(6, 0, -1, 0, 0, 3);
         r.hours(1);
         c.due(r.dwell(6), STATE);
+        PeaceRing first = new PeaceRing();
+        first.stone(0, 1);
+        first.person(0, 1);
+        first.seek(0);
+        first.deed(0, 5, -1, 0, 0, 0);
+        c.due(first.dwell(0), STATE);
     }
 
     static void promise26() {
@@ -800,6 +889,8 @@ public final class PromisesTest {
         c.all(new int[] {r.run(0, 2, 1, 0), r.run(0, 2, 1, 1), r.run(0, 2, 1, 2)}, 0, 4, 10);
         r.ground(10, 1);
         c.all(new int[] {r.run(0, 2, 1, 0), r.run(0, 2, 1, 1), r.row(0, 1), r.row(1, 1)}, 1, 2, 1, 0);
+        r.post(0, 0, 0, 23);
+        c.all(new int[] {r.run(2, 0, 1, 0), r.row(1, 1)}, 2, 1);
         // Nobody is SEEN where they start.
         c.all(new int[] {r.run(1, 2, 1, 0), r.run(2, 1, 1, 0)}, 0, 1);
     }
@@ -955,6 +1046,12 @@ public final class PromisesTest {
         c.due(r.watch(), 10);
         r.stone(53, 1);
         c.due(r.watch(), 18);
+        PeaceRing midnight = new PeaceRing();
+        midnight.stone(0, 1);
+        midnight.post(0, 0, 0, 0);
+        c.due(midnight.watch(), 1);
+        midnight.post(0, 0, 23, 23);
+        c.due(midnight.watch(), 3);
         PeaceRing all = new PeaceRing();
         all.stone(55, 1);
         for (int p = 0; p < 8; p++) all.post(55, 0, 3 * p, 3 * p + 2);
@@ -1032,6 +1129,9 @@ public final class PromisesTest {
         c.due(r.who(10), 16);
         r.ground(56, 1);
         c.due(r.who(2), 0);
+        r.seek(0);
+        r.dwell(0);
+        c.due(r.who(0), 33);
     }
 
     static void promise44() {
@@ -1075,6 +1175,11 @@ public final class PromisesTest {
         c.all(new int[] {r.both(0, 1), r.both(2, 1)}, NONE, 1);
         Check.read(r, 0, "theft fail if degree above 3 or not inside; mile 0;");
         c.due(r.both(0, 1), 18);
+        PeaceRing nought = new PeaceRing();
+        nought.stone(50, 3);
+        nought.person(51, 1);
+        nought.deed(0, 0, -1, 0, 0, 0);
+        c.all(new int[] {nought.both(0, 1), nought.both(1, 1)}, NONE, 0);
         PeaceRing inside = new PeaceRing();
         inside.stone(50, 3);
         inside.person(50, 1);
