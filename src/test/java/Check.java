@@ -1,7 +1,9 @@
 import java.nio.charset.StandardCharsets;
+import java.util.Set;
 
 /** Counts answers that are not as due, and feeds texts. */
 final class Check {
+    private static final Set<String> HELPERS = Set.of("Check", "Edges");
     private int asked;
     private int wrong;
     private String about = "";
@@ -19,7 +21,7 @@ final class Check {
 
     private static int callersLine() {
         for (StackTraceElement frame : new Throwable().getStackTrace()) {
-            if (!frame.getClassName().equals("Check")) return frame.getLineNumber();
+            if (!HELPERS.contains(frame.getClassName())) return frame.getLineNumber();
         }
         return 0;
     }
