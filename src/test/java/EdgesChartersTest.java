@@ -261,6 +261,10 @@ public final class EdgesChartersTest extends Edges {
     static void promise12_namesAndNumbers() {
         fault("milemile 3;", 0);
         fault("mil e 3;", 0);
+        fault("milez 3;", 0);
+        fault("amile 3;", 0);
+        fault("z", 0);
+        fault(";".repeat(300), 0);
         fault("Mile 3;", 0);
         fault("mIle 3;", 0);
         fault("MILE 3;", 0);
