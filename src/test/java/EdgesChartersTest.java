@@ -206,6 +206,36 @@ public final class EdgesChartersTest extends Edges {
         fault("thefts count;", 0);
     }
 
+    private static final String[] ALL_WORDS = {"mile", "measure", "lanes", "straight", "forty", "cost", "if", "count", "fail", "and", "or",
+        "not", "above", "theft", "blow", "killing", "debt", "oath", "treason", "any", "age", "times", "degree", "inside", "night",
+        "against", ";", "(", ")", "3", "king", ",", "1000"};
+    private static final String KIND = " theft blow killing debt oath treason any ", LINE = " mile measure forty cost" + KIND;
+    private static final String ONE = " not age times degree inside night against ";
+    /** Behind which words which ones can stand. */
+    private static final String[][] CAN_STAND = {{"", LINE}, {"mile 3;", LINE}, {"any fail if night;", LINE}, {"mile", " 3 "},
+        {"mile 3", " ; "}, {"measure", " lanes straight "}, {"measure lanes", " ; "}, {"measure straight", " ; "}, {"forty", " 3 "},
+        {"forty 3", " ; "}, {"cost", " 3 "}, {"cost 3", " ; if "}, {"cost 3 if", ONE + "( "}, {"theft", " and count fail "},
+        {"theft and any", " and count fail "}, {"theft and", KIND}, {"theft count", " ; if "}, {"any fail", " ; if "},
+        {"any count if", ONE + "( "}, {"any fail if not", ONE + "( "}, {"any fail if age", " above "}, {"any fail if times", " above "},
+        {"any fail if degree", " above "}, {"any fail if age above", " 3 "}, {"any fail if age above 3", " and or ; "},
+        {"any fail if inside", " and or ; "}, {"any fail if night", " and or ; "}, {"any fail if against", " and or ; "},
+        {"any fail if night and", ONE + "( "}, {"any fail if night or", ONE + "( "}, {"any fail if (", ONE + "( "},
+        {"any fail if ((((", ONE}, {"any fail if (night", " and or ) "}, {"any fail if (times above 3", " and or ) "},
+        {"any fail if (night)", " and or ; "}, {"any fail if ((night)", " and or ) "}};
+
+    @Says("of the first NAME, NUMBER or other byte that can't stand there")
+    static void promise12_whatCanStandWhere() {
+        for (String[] behind : CAN_STAND) {
+            for (String word : ALL_WORDS) {
+                String text = behind[0] + " " + word;
+                boolean can = behind[1].contains(" " + word + " ");
+                // What can stand there is followed by the end, where more must come, unless it is a whole TEXT.
+                if (can && word.equals(";")) good(text, 1);
+                else fault(text, can ? text.length() : behind[0].length() + 1);
+            }
+        }
+    }
+
     @Says({"COND: ALL { or ALL }", "ALL: ONE { and ONE }"})
     static void promise12_conditionsJoined() {
         good("any fail if night or night and night or night;", 1);
@@ -397,6 +427,17 @@ public final class EdgesChartersTest extends Edges {
         PeaceRing r = rich();
         all(of(r.strike(1), r.strike(1), Check.read(r, 1, ""), r.strike(1)), 1, NONE, -106, NONE);
         all(of(Check.read(r, 1, ""), r.strike(1), r.strike(1)), 3, 3, NONE);
+    }
+
+    @Says("NONE: it has none in force NOW.")
+    static void promise13_whatAgainTookAwayIsNotInForce() {
+        PeaceRing r = new PeaceRing();
+        r.keep();
+        for (int charter = 0; charter < 3; charter++) {
+            Check.read(r, charter, "mile 7;");
+            r.again();
+            all(of(r.strike(0), r.strike(1), r.strike(2), r.rule(0, 0), r.many(3)), NONE, NONE, NONE, 3, 0);
+        }
     }
 
     // ---- 14: version
