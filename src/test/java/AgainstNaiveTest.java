@@ -25,7 +25,9 @@ public final class AgainstNaiveTest {
             "heard", "heard", "personOf", "ground", "many"},
         {"deed", "deed", "counts", "line", "safe", "why", "cost", "narrow", "both", "both", "many", "read", "strike",
             "hours", "ground", "within", "degree", "rule", "keep", "again"},
-        {"seek", "dwell", "dwell", "sight", "sight", "who", "who", "hours", "hours", "deed", "move", "ground"}};
+        {"seek", "dwell", "dwell", "sight", "sight", "who", "who", "hours", "hours", "deed", "move", "ground"},
+        {"run", "aim", "aim", "hours", "personOf", "between", "within", "degree", "post", "sight", "who", "judge", "dropRow"}};
+    private static final int NARROW = THEMES.length - 1;
     private static final int[] ODD = {Integer.MIN_VALUE, Integer.MAX_VALUE, -1, -2, 100, 1 << 20, -100, 10000, 16, 24};
 
     private final Random random;
@@ -62,6 +64,7 @@ public final class AgainstNaiveTest {
     private boolean play() throws Exception {
         int calls = 120 + random.nextInt(392);
         int stage = 0;
+        if (theme == THEMES[NARROW] && !layWalls()) return false;
         while (told.size() < calls) {
             // The beginning builds, so that there is something to ask about.
             String name = ++stage < 40 && random.nextInt(3) > 0 ? builder() : asked();
@@ -73,6 +76,18 @@ public final class AgainstNaiveTest {
             }
             if (!same(name, arguments(name))) return false;
             if (name.equals("run") && !sameRows()) return false;
+        }
+        return true;
+    }
+
+    /** Walls all over, or lanes that wind, so that WAYS are long and few. */
+    private boolean layWalls() throws Exception {
+        boolean isWinding = random.nextBoolean();
+        for (int cell = 0; cell < 100; cell++) {
+            int row = cell / 10;
+            int door = row % 4 == 1 ? 9 : 0;
+            boolean isWall = isWinding ? row % 2 == 1 && cell % 10 != door && random.nextInt(40) > 0 : random.nextInt(3) == 0;
+            if (isWall && !same("ground", cell, 1)) return false;
         }
         return true;
     }
